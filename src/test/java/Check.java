@@ -1,5 +1,4 @@
 import java.util.function.Consumer;
-import java.util.function.Function;
 import java.util.function.Supplier;
 
 /** Counts the answers that are not as due; a test ends with finish(). */
@@ -49,8 +48,8 @@ final class Check {
         }
     }
 
-    static void row(String what, TrainGuard x, int train, Function<TrainGuard, Object> call, double... dues) {
-        call.apply(x);
+    /** What of answers for 0, 1, .. */
+    static void dueOf(String what, TrainGuard x, int train, double... dues) {
         for (int i = 0; i < dues.length; i++) {
             due(what + ": of(" + train + ", " + i + ")", x.of(train, i), dues[i]);
         }
