@@ -382,6 +382,15 @@ public final class TrainGuard {
             return limitAt(place > lineEnd() ? lineEnd() : place);
         }
 
+        /** How many places there are where the limit may fall: the sections' begins, then the restrictions' froms. */
+        int changeCount() {
+            return sectionCount + restrictionCount;
+        }
+
+        double changeAt(int i) {
+            return i < sectionCount ? begins[i] : froms[i - sectionCount];
+        }
+
         boolean hasBeginBetween(double above, double upTo) {
             for (int i = 0; i < sectionCount; i++) {
                 if (begins[i] > above && begins[i] <= upTo) {
@@ -555,22 +564,14 @@ public final class TrainGuard {
         }
 
         private boolean meetsLimitsAhead(Line line, double front, double v) {
-            for (int i = 0; i < line.sectionCount; i++) {
-                if (!meetsLimitFrom(line, line.begins[i], front, v)) {
-                    return false;
-                }
-            }
-            for (int i = 0; i < line.restrictionCount; i++) {
-                if (!meetsLimitFrom(line, line.froms[i], front, v)) {
+            for (int i = 0; i < line.changeCount(); i++) {
+                double place = line.changeAt(i);
+                boolean liesAhead = place > front && place <= line.lineEnd();
+                if (liesAhead && !isSafe(place, front, v, line.limitAt(place))) {
                     return false;
                 }
             }
             return true;
-        }
-
-        private boolean meetsLimitFrom(Line line, double place, double front, double v) {
-            boolean liesAhead = place > front && place <= line.lineEnd();
-            return !liesAhead || isSafe(place, front, v, line.limitAt(place));
         }
     }
 }
