@@ -47,6 +47,18 @@ final class Lines {
         return x;
     }
 
+    /** Train 0, 50 long, is in sections 0 and 1 of four of 50; it holds 0 alone, and its HEAD is 1. */
+    static TrainGuard astride() {
+        TrainGuard x = new TrainGuard();
+        for (int i = 0; i < 4; i++) {
+            x.section(50, 20);
+        }
+        x.train(0, 50, 1);
+        x.start(0);
+        seconds(x, 1, 1, 0);
+        return x;
+    }
+
     static void seconds(TrainGuard x, int n, double a, int slip) {
         for (int i = 0; i < n; i++) {
             x.second(0, a, slip);

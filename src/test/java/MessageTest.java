@@ -37,22 +37,9 @@ public final class MessageTest {
         Check.due("ask in POST", Lines.inPost().ask(0, 1), 3);
     }
 
-    /** Train 0 is in sections 0 and 1; its HEAD is 1. */
-    private static TrainGuard astride() {
-        TrainGuard x = new TrainGuard();
-        x.section(50, 20);
-        x.section(50, 20);
-        x.section(50, 20);
-        x.section(50, 20);
-        x.train(0, 50, 1);
-        x.start(0);
-        Lines.seconds(x, 1, 1, 0);
-        return x;
-    }
-
     /** Train 1 stands in section 2 and has asked for section 3. */
     private static TrainGuard withAnotherAhead() {
-        TrainGuard x = astride();
+        TrainGuard x = Lines.astride();
         x.train(2, 50, 1);
         x.ask(1, 3);
         return x;
@@ -88,9 +75,9 @@ public final class MessageTest {
         for (int section : bad) {
             Check.refuses("ask(0, " + section + ")", Check.ARGUMENT, Lines::standing, x -> x.ask(0, section));
         }
-        Check.refuses("ask before HEAD", Check.ARGUMENT, MessageTest::astride, x -> x.ask(0, 0));
+        Check.refuses("ask before HEAD", Check.ARGUMENT, Lines::astride, x -> x.ask(0, 0));
         Check.refuses("ask before HEAD for another's", Check.ARGUMENT, MessageTest::withAnotherAhead, x -> x.ask(1, 0));
-        Check.due("ask for HEAD", astride().ask(0, 1), 1);
+        Check.due("ask for HEAD", Lines.astride().ask(0, 1), 1);
         Check.refuses("ask for another's", Check.STATE, MessageTest::withAnotherAhead, x -> x.ask(0, 2));
         Check.refuses("ask over another's", Check.STATE, MessageTest::withAnotherAhead, x -> x.ask(0, 3));
         Check.due("ask up to another's", withAnotherAhead().ask(0, 1), 1);

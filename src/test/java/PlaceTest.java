@@ -49,18 +49,6 @@ public final class PlaceTest {
         return x;
     }
 
-    /** The train's front is in section 1, which nobody holds. */
-    private static TrainGuard astride() {
-        TrainGuard x = new TrainGuard();
-        x.section(50, 20);
-        x.section(50, 20);
-        x.section(50, 20);
-        x.train(0, 50, 1);
-        x.start(0);
-        Lines.seconds(x, 1, 1, 0);
-        return x;
-    }
-
     private static TrainGuard askedAhead() {
         TrainGuard x = Lines.standing();
         x.ask(0, 1);
@@ -71,9 +59,9 @@ public final class PlaceTest {
         Check.refuses("a fourth train", Check.STATE, PlaceTest::threeTrains, x -> x.train(3, 10, 1));
         Check.refuses("a held section", Check.STATE, Lines::standing, x -> x.train(0, 10, 1));
         Check.refuses("a section held ahead", Check.STATE, PlaceTest::askedAhead, x -> x.train(1, 10, 1));
-        Check.refuses("a section that a train is in", Check.STATE, PlaceTest::astride, x -> x.train(1, 10, 1));
+        Check.refuses("a section that a train is in", Check.STATE, Lines::astride, x -> x.train(1, 10, 1));
         Check.due("the section behind", askedAhead().train(2, 10, 1), 1);
-        Check.due("the section ahead of its front", astride().train(2, 10, 1), 1);
+        Check.due("the section ahead of its front", Lines.astride().train(2, 10, 1), 1);
     }
 
     private static void inAndHeld() {

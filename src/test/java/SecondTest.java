@@ -291,29 +291,13 @@ public final class SecondTest {
         Check.due("the rear is past the end", x.of(0, 0), 63.5);
         Check.due("free", x.holds(0, 0), -1);
         Check.due("the next", x.holds(1, 0), 0);
-        freeingAtTheEdge();
-    }
-
-    private static void freeingAtTheEdge() {
-        TrainGuard x = twoSections(49.5, 1);
-        x.start(0);
-        x.ask(0, 1);
-        for (int i = 0; i < 9; i++) {
-            x.second(0, 1, 0);
-        }
-        x.second(0, 0.5, 0);
-        Check.due("it has come to", x.of(0, 0), 49.5 + 12.5 + 25);
-        Check.due("held below the edge", x.holds(0, 0), 0);
-        x.second(0, 0, 0);
-        x.second(0, 0, 0);
-        Check.due("near the edge", x.of(0, 0), 97);
-        x.second(0, 0, 0);
-        Check.due("the line's end", x.of(0, 0), 100);
-        Check.due("the rear is past the edge", x.holds(0, 0), -1);
         TrainGuard y = twoSections(50, 1);
         y.start(0);
-        Lines.seconds(y, 20, 1, 0);
-        Check.due("the rear at the edge just", y.of(0, 0) - 50, 50);
+        Lines.seconds(y, 11, 1, 0);
+        Check.due("the rear is before the edge", y.of(0, 0) - 50, 42.5);
+        Check.due("held before the edge", y.holds(0, 0), 0);
+        Lines.seconds(y, 2, 1, 0);
+        Check.due("the rear is at the edge just", y.of(0, 0) - 50, 50);
         Check.due("free at the edge", y.holds(0, 0), -1);
     }
 
