@@ -9,7 +9,7 @@ final class Probe {
         this.x = x;
     }
 
-    /** Some 250 calls, so that an object made with few stays below its 512. */
+    /** Some 220 calls, so that an object made with few stays below its 512. */
     static String trace(TrainGuard x) {
         Probe probe = new Probe(x);
         probe.readAll();
@@ -46,16 +46,21 @@ final class Probe {
         }
     }
 
+    /** Its message shows in take, how many there were in stop, and whether it is wet in how a train in TRIP slows. */
     private void drive(int t) {
         note(() -> x.second(t, 0.5, 1));
         note(() -> x.take(t, 0));
+        note(() -> x.start(t));
         note(() -> x.second(t, 0.5, 1));
+        note(() -> x.second(t, 1, -1));
+        note(() -> x.of(t, 1));
         note(() -> x.stop(t));
         note(() -> x.take(t, 0));
         for (int i = 0; i < 4; i++) {
             note(() -> x.second(t, 0.5, 1));
             note(() -> x.of(t, 3));
         }
+        note(() -> x.acknowledge(t));
     }
 
     private void drainRestrictions() {
