@@ -124,6 +124,12 @@ public final class ExceptionBoundaryTest {
                 ask 0 0
                 take 0 0 ! IllegalStateException
                 """);
+        Sentence.holds("NoSuchElementException before IllegalStateException: take in TRIP behind an AUTHORITY taken", """
+                2 x section 50 60; train 0 48.875 1; wet 0 true; ask 0 0; take 0 0; start 0 = 2
+                second 0 1 1 = 2; second 0 1 1 = 3
+                take 0 0 ! NoSuchElementException
+                take 0 1 ! NoSuchElementException
+                """);
         Sentence.holds("NoSuchElementException before UnsupportedOperationException: take of none, altered", ONE + """
                 take 0 1 ! NoSuchElementException
                 count 3 = 0

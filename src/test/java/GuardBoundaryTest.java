@@ -13,7 +13,9 @@ public final class GuardBoundaryTest {
         atTheLineEnd();
         underTheLimitAtTheFront();
         underTheLimitAtTheRear();
+        nearTheLineBegin();
         slowSectionAtTheRear();
+        stateOverASectionBegin();
         aboveTheLineEnd();
         Check.finish();
     }
@@ -175,6 +177,17 @@ public final class GuardBoundaryTest {
                 "section 100 60; restrict 4.375 20 1;" + drive + "of 0 3 = 2.5; count 4 = 0");
     }
 
+    /** The ways 0.125 and 0.75 bring the rear to 0.875 at the speed 1.25; it can't come below 0. */
+    private static void nearTheLineBegin() {
+        String drive = FULL_OF_100 + "second 0 0.25 0; second 0 1 0;";
+        Sentence.holds("STATE: m less the train's length is just above 0, and past a LIMIT at 0",
+                "section 100 60; restrict 0 0.875 1;" + drive + "of 0 3 = 1.25; of 0 1 = 20.875; count 4 = 0");
+        Sentence.holds("STATE: m less the train's length is just above 0, and under a LIMIT at 0",
+                "section 100 60; restrict 0 1 1;" + drive + "of 0 3 = 0; count 4 = 1");
+        Sentence.holds("STATE: m less the train's length is just above 0, and under a LIMIT that is not at 0",
+                "section 100 60; restrict 0.875 1 1;" + drive + "of 0 3 = 0; count 4 = 1");
+    }
+
     /** The rear is at 47.75 behind 26 seconds; the way of the next one is 2.25 with 0.5, 2.1875 with 0.375. */
     private static void slowSectionAtTheRear() {
         String drive = """
@@ -191,6 +204,20 @@ public final class GuardBoundaryTest {
         Sentence.holds("STATE: the rear a sixteenth before the begin of a fast section", drive + """
                 second 0 0.375 0
                 of 0 3 = 1; count 4 = 1
+                """);
+    }
+
+    /**
+     * At 8 MEASURED is 42 and MARGIN 4; at 9 they would be 50.5 and 5.0625, and it would need 101.125. With the
+     * MARGIN that the section's begin at 50 sets to 0 it would need less than 100.
+     */
+    private static void stateOverASectionBegin() {
+        Sentence.holds("STATE: m and k as they would come, grown by the way", """
+                2 x section 50 60; train 0 10 1; ask 0 1; take 0 0; start 0 = 2
+                8 x second 0 1 0
+                of 0 3 = 8; of 0 1 = 42; of 0 2 = 4; count 4 = 0
+                second 0 1 0
+                of 0 3 = 7; count 4 = 1
                 """);
     }
 

@@ -37,6 +37,13 @@ public final class MessageBoundaryTest {
                 take 1 0 = 0
                 take 1 0 ! NoSuchElementException
                 """);
+        Sentence.holds("MESSAGES: each train has numbers of its own", """
+                3 x section 50 60; train 0 10 1; train 1 10 1; train 2 10 1
+                stop 0 = 1; stop 0 = 2; ask 0 0 = 3
+                stop 1 = 1; ask 1 1 = 2
+                ask 2 2 = 1
+                stop 0 = 4; stop 1 = 3; stop 2 = 2
+                """);
         Sentence.holds("MESSAGES: with a number, 1, 2, .. for each train", AT_THE_END + """
                 train 1 50 1 = 1
                 ask 0 0 = 1
@@ -156,6 +163,14 @@ public final class MessageBoundaryTest {
                 ask 0 3 ! IllegalStateException
                 ask 1 3 = 1
                 ask 0 1 = 2
+                """);
+        Sentence.holds("7: those before another's are not HELD by an ask that is refused", """
+                4 x section 50 60
+                train 0 10 1; train 3 10 1
+                ask 0 3 ! IllegalStateException
+                holds 0 0 = 0; holds 1 0 = -1; holds 2 0 = -1; holds 3 0 = 1
+                ask 0 2 = 1
+                holds 2 0 = 0
                 """);
     }
 

@@ -377,6 +377,19 @@ public final class SecondBoundaryTest {
                 second 0 0 0; second 1 0 0
                 of 0 3 = 2; of 1 3 = 2.5
                 """);
+        Sentence.holds("11: it is WET until it is said not to be, behind end and start too", """
+                section 100 60; train 0 20 1; wet 0 true; start 0 = 1; end 0; start 0 = 1
+                3 x second 0 1 0
+                stop 0; take 0 0
+                second 0 0 0
+                of 0 3 = 2.5
+                5 x second 0 0 0
+                acknowledge 0 = 4; acknowledge 0 = 1
+                3 x second 0 1 0
+                stop 0; take 0 0
+                second 0 0 0
+                of 0 3 = 2.5
+                """);
         Sentence.holds("11: in STAFF the train slows as it wishes", """
                 section 100 60; train 0 20 1; wet 0 true; start 0
                 3 x second 0 1 0; second 0 -2 0
